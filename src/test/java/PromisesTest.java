@@ -35,6 +35,7 @@ public final class PromisesTest {
         give();
         has();
         acts();
+        actsOnSix();
         inner();
         row();
         put();
@@ -43,6 +44,7 @@ public final class PromisesTest {
         judge();
         back();
         backForgets();
+        backThroughAll();
         feed();
         wipe();
         read();
@@ -115,11 +117,14 @@ public final class PromisesTest {
         SwapTables x = new SwapTables();
         x.row(0, 2);
         x.put(0, 1, 7);
-        x.vector(1, 1);
+        for (int shelf = 1; shelf < 4; shelf++) {
+            x.vector(shelf, 1);
+        }
         x.swap(2, 1);
         x.feed('s');
         x.image();
         due.is("2: 3, 1, 1", x.shape(3, 1, 1, 0, 0), 6);
+        due.is("2: one shelf is in use", x.count(3), 1);
         due.is("2: the row stays", x.get(0, 1), 7);
         due.is("2: the vector is gone", x.acts(1, 0), -11);
         due.is("2: no steps", x.count(0), 0);
@@ -127,7 +132,9 @@ public final class PromisesTest {
         order("2", x, 2, 1, 2, 3, 4, 5);
         x.vector(1, 1);
         x.swap(0, 4);
+        x.vector(0, 0);
         due.is("2: the shape that it is", x.shape(3, 1, 1, 0, 0), 6);
+        due.is("2: no shelf is in use", x.count(3), 0);
         due.is("2: the vector is gone again", x.has(1, 1), VOID);
         due.is("2: no steps again", x.back(), STATE);
         order("2 again", x, 0, 1, 2, 3, 4, 5);
@@ -568,6 +575,31 @@ public final class PromisesTest {
         due.is("24: no step", x.count(0), 1);
     }
 
+    private static void actsOnSix() {
+        SwapTables x = of(3, 1, 1, 0, 0);
+        x.swap(0, 1);
+        for (int k = 0; k < 6; k++) {
+            x.vector(1, k);
+            due.is("24: on six", x.acts(1, 0), 1);
+            for (int j = 0; j < 6; j++) {
+                due.is("24: its number is WHOLE", x.has(1, j), x.whole(0, k, j));
+            }
+            due.is("25: of six", x.inner(1, 1, 1) > 0 ? 1 : 0, 1);
+        }
+        // (13) makes of a and b: -a -b and b.
+        x.shape(2, 1, 0, 0, 0);
+        reading(x, 0, "(13)");
+        x.vector(1, 1);
+        x.give(1, 0, 999);
+        due.is("24: only the first would be beyond", x.acts(1, 0), STATE);
+        due.is("24: the first is left", x.has(1, 0), 999);
+        due.is("24: the second is left", x.has(1, 1), 1);
+        x.give(1, 0, 998);
+        due.is("24: not beyond", x.acts(1, 0), 1);
+        due.is("24: of 0", x.has(1, 0), -999);
+        due.is("24: of 1", x.has(1, 1), 1);
+    }
+
     private static void inner() {
         SwapTables x = new SwapTables();
         x.vector(0, 0);
@@ -742,6 +774,32 @@ public final class PromisesTest {
         due.is("31: read of what it was is none", x.count(0), 1);
         x.times(0, 0, 0);
         due.is("31: times of what it was is none", x.count(0), 1);
+    }
+
+    private static void backThroughAll() {
+        SwapTables x = of(4, 0, 0, 0, 0);
+        int many = 17;
+        int[] told = new int[many + 1];
+        for (int i = 0; i < many; i++) {
+            told[i] = targets(x);
+            x.swap(i * i % 4 + i / 8, 1 + i % 3);
+        }
+        for (int i = many - 1; i >= many - 10; i--) {
+            x.back();
+            due.is("31: as before step " + i, targets(x), told[i]);
+        }
+        due.is("31: no more than ten", x.back(), STATE);
+    }
+
+    /** All REGISTERS as one number. */
+    private static int targets(SwapTables x) {
+        int told = 0;
+        for (int r = 0; r < 4; r++) {
+            for (int i = 1; i <= 4; i++) {
+                told = told * 31 + x.takes(r, i);
+            }
+        }
+        return told;
     }
 
     private static void feed() {
