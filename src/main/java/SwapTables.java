@@ -1259,7 +1259,9 @@ public final class SwapTables {
 
         private boolean goesOnInCycle(int letter, int place) {
             if (isFigure(letter)) {
-                takeIntoCycle(letter - '0', place);
+                if (!takesIntoCycle(letter - '0')) {
+                    noteWrong(place);
+                }
                 return true;
             }
             if (letter == ')' && figures >= 2) {
@@ -1269,12 +1271,11 @@ public final class SwapTables {
             return false;
         }
 
-        /** The cycle is closed at each figure; a WRONG one stays out of it, so that it is an ORDER all the time. */
-        private void takeIntoCycle(int number, int place) {
+        /** The cycle is closed at each figure; a WRONG one (false) stays out of it, so that it is an ORDER all the time. */
+        private boolean takesIntoCycle(int number) {
             figures++;
             if (number > n || (seen >> number & 1) == 1) {
-                noteWrong(place);
-                return;
+                return false;
             }
             seen |= 1 << number;
             if (first == 0) {
@@ -1284,6 +1285,7 @@ public final class SwapTables {
                 cycle = Orders.withTarget(cycle, number, first);
             }
             last = number;
+            return true;
         }
 
         private boolean goesOnBehindPart(int letter) {

@@ -17,15 +17,8 @@ public final class EveryShapeTest {
     }
 
     private static void everyCall(List<Integer> shape) {
-        x = new SwapTables();
-        slow = new Slow();
-        int[] rows = new int[5];
-        for (int i = 0; i < shape.size(); i++) {
-            rows[i] = shape.get(i);
-        }
-        due.is("shape" + shape, x.shape(rows[0], rows[1], rows[2], rows[3], rows[4]),
-            slow.shape(rows[0], rows[1], rows[2], rows[3], rows[4]));
         cells(shape);
+        partitions(shape);
         standardOnes(shape);
         for (int[] order : Slow.World.of(shape).orders) {
             order(shape, order);
@@ -33,15 +26,22 @@ public final class EveryShapeTest {
         }
     }
 
+    /** New objects each time, for one is used for at most 512 calls. */
+    private static void begin(List<Integer> shape) {
+        x = new SwapTables();
+        slow = new Slow();
+        due.is("shape" + shape, x.shape(at(shape, 0), at(shape, 1), at(shape, 2), at(shape, 3), at(shape, 4)),
+            slow.shape(at(shape, 0), at(shape, 1), at(shape, 2), at(shape, 3), at(shape, 4)));
+    }
+
     private static void cells(List<Integer> shape) {
+        begin(shape);
         for (int what = -1; what <= 5; what++) {
             due.is(shape + " of " + what, x.of(what), slow.of(what));
         }
         for (int a = -2; a <= 8; a++) {
             due.is(shape + " branch " + a, x.branch(a), slow.branch(a));
-            due.is(shape + " characterOf " + a, x.characterOf(a), slow.characterOf(a));
             for (int b = -2; b <= 6; b++) {
-                due.is(shape + " partition " + a + " " + b, x.partition(a, b), slow.partition(a, b));
                 for (int what = -1; what <= 2; what++) {
                     due.is(shape + " cell " + a + " " + b, x.cell(a, b, what), slow.cell(a, b, what));
                 }
@@ -49,7 +49,18 @@ public final class EveryShapeTest {
         }
     }
 
+    private static void partitions(List<Integer> shape) {
+        begin(shape);
+        for (int a = -2; a <= 8; a++) {
+            due.is(shape + " characterOf " + a, x.characterOf(a), slow.characterOf(a));
+            for (int b = -2; b <= 6; b++) {
+                due.is(shape + " partition " + a + " " + b, x.partition(a, b), slow.partition(a, b));
+            }
+        }
+    }
+
     private static void standardOnes(List<Integer> shape) {
+        begin(shape);
         for (int k = -1; k <= 6; k++) {
             for (int i = -1; i <= 6; i++) {
                 for (int what = -1; what <= 2; what++) {
@@ -65,9 +76,8 @@ public final class EveryShapeTest {
     }
 
     private static void order(List<Integer> shape, int[] order) {
+        begin(shape);
         String name = shape + Arrays.toString(order);
-        x.shape(shape.get(0), at(shape, 1), at(shape, 2), at(shape, 3), at(shape, 4));
-        slow.shape(shape.get(0), at(shape, 1), at(shape, 2), at(shape, 3), at(shape, 4));
         for (char s : Slow.World.of(shape).words.get(Arrays.toString(order)).toCharArray()) {
             due.is(name + " swap " + s, x.swap(1, s - '0'), slow.swap(1, s - '0'));
         }
@@ -91,6 +101,7 @@ public final class EveryShapeTest {
     }
 
     private static void filling(List<Integer> shape, int[] order) {
+        begin(shape);
         String name = shape + " filling " + Arrays.toString(order);
         x.row(2, order.length);
         slow.row(2, order.length);

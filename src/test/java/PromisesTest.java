@@ -58,46 +58,13 @@ public final class PromisesTest {
         due.end();
     }
 
-    private static SwapTables of(int a, int b, int c, int d, int e) {
-        SwapTables x = new SwapTables();
-        x.shape(a, b, c, d, e);
-        return x;
-    }
-
-    private static SwapTables reading(SwapTables x, int r, String text) {
-        Due.feed(x, text);
-        x.read(r);
-        return x;
-    }
-
-    private static void order(String name, SwapTables x, int r, int... targets) {
-        for (int i = 0; i < targets.length; i++) {
-            due.is(name + ": takes " + (i + 1), x.takes(r, i + 1), targets[i]);
-        }
-    }
-
-    private static void text(SwapTables x, String text, int want) {
-        Due.feed(x, text);
-        due.is("read " + text, x.read(0), want);
-        due.is("the tape behind " + text, x.count(1), 0);
-    }
-
-    /** Pairs of sort and number. */
-    private static void troubles(String name, SwapTables x, int... pairs) {
-        due.is(name + ": how many", x.count(2), pairs.length / 2);
-        for (int i = 0; i < pairs.length; i++) {
-            due.is(name + ": why " + i / 2 + " " + i % 2, x.why(i / 2, i % 2), pairs[i]);
-        }
-        due.is(name + ": why behind the last", x.why(pairs.length / 2, 0), NOT);
-    }
-
     private static void newObject() {
         SwapTables x = new SwapTables();
         due.is("1: N", x.of(0), 3);
         due.is("1: rows", x.of(1), 2);
         due.is("1: a cell in row 1", x.cell(1, 0, 0), 1);
         for (int r = 0; r < 4; r++) {
-            order("1", x, r, 1, 2, 3);
+            due.order("1", x, r, 1, 2, 3);
             due.is("1: shelf", x.judge(r), -11);
         }
         for (int what = 0; what <= 4; what++) {
@@ -129,7 +96,7 @@ public final class PromisesTest {
         due.is("2: the vector is gone", x.acts(1, 0), -11);
         due.is("2: no steps", x.count(0), 0);
         due.is("2: the tape stays", x.count(1), 1);
-        order("2", x, 2, 1, 2, 3, 4, 5);
+        due.order("2", x, 2, 1, 2, 3, 4, 5);
         x.vector(1, 1);
         x.swap(0, 4);
         x.vector(0, 0);
@@ -137,7 +104,7 @@ public final class PromisesTest {
         due.is("2: no shelf is in use", x.count(3), 0);
         due.is("2: the vector is gone again", x.has(1, 1), VOID);
         due.is("2: no steps again", x.back(), STATE);
-        order("2 again", x, 0, 1, 2, 3, 4, 5);
+        due.order("2 again", x, 0, 1, 2, 3, 4, 5);
         due.is("2: the image stays", x.restore(), 3);
         due.is("2: 1", x.shape(1, 0, 0, 0, 0), 1);
         due.is("2: 5", x.shape(5, 0, 0, 0, 0), 1);
@@ -167,21 +134,21 @@ public final class PromisesTest {
     }
 
     private static void of() {
-        SwapTables x = of(2, 2, 1, 0, 0);
+        SwapTables x = Lead.shape(2, 2, 1);
         int[] due221 = {5, 3, 5, 24, 4};
         for (int what = 0; what < 5; what++) {
             due.is("3: of " + what, x.of(what), due221[what]);
         }
         due.is("3: below", x.of(-1), BAD);
         due.is("3: above", x.of(5), BAD);
-        due.is("3: hooks of 5", of(5, 0, 0, 0, 0).of(3), 120);
-        due.is("3: number of 5", of(5, 0, 0, 0, 0).of(4), 0);
-        due.is("3: number of 1, 1, 1, 1, 1", of(1, 1, 1, 1, 1).of(4), 6);
-        due.is("3: number of 3, 1", of(3, 1, 0, 0, 0).of(4), 1);
+        due.is("3: hooks of 5", Lead.shape(5).of(3), 120);
+        due.is("3: number of 5", Lead.shape(5).of(4), 0);
+        due.is("3: number of 1, 1, 1, 1, 1", Lead.shape(1, 1, 1, 1, 1).of(4), 6);
+        due.is("3: number of 3, 1", Lead.shape(3, 1).of(4), 1);
     }
 
     private static void cell() {
-        SwapTables x = of(3, 1, 1, 0, 0);
+        SwapTables x = Lead.shape(3, 1, 1);
         int[][] cells = {{0, 0, 5, 0}, {0, 1, 2, 1}, {0, 2, 1, 2}, {1, 0, 2, -1}, {2, 0, 1, -2}};
         for (int[] c : cells) {
             due.is("4: hook", x.cell(c[0], c[1], 0), c[2]);
@@ -195,7 +162,7 @@ public final class PromisesTest {
     }
 
     private static void standard() {
-        SwapTables x = of(2, 2, 0, 0, 0);
+        SwapTables x = Lead.shape(2, 2);
         int[][] rows = {{0, 0, 1, 1}, {0, 1, 0, 1}};
         int[][] columns = {{0, 1, 0, 1}, {0, 0, 1, 1}};
         for (int k = 0; k < 2; k++) {
@@ -220,31 +187,31 @@ public final class PromisesTest {
         due.is("6: nothing", x.which(0), -11);
         x.vector(0, 0);
         due.is("6: a vector", x.which(0), -12);
-        Due.row(x, 0, 1, 2);
+        Lead.row(x, 0, 1, 2);
         due.is("6: too few", x.which(0), -13);
-        Due.row(x, 0, 1, 2, 2);
+        Lead.row(x, 0, 1, 2, 2);
         due.is("6: twice", x.which(0), STATE);
-        Due.row(x, 0, 1, 2, 4);
+        Lead.row(x, 0, 1, 2, 4);
         due.is("6: above N", x.which(0), STATE);
-        Due.row(x, 0, 0, 1, 2);
+        Lead.row(x, 0, 0, 1, 2);
         due.is("6: 0", x.which(0), STATE);
-        Due.row(x, 0, 1, 2, 35);
+        Lead.row(x, 0, 1, 2, 35);
         due.is("6: 3 and 32", x.which(0), STATE);
-        Due.row(x, 0, 2, 1, 3);
+        Lead.row(x, 0, 2, 1, 3);
         due.is("6: row falls", x.which(0), NOT);
-        Due.row(x, 0, 2, 3, 1);
+        Lead.row(x, 0, 2, 3, 1);
         due.is("6: column falls", x.which(0), NOT);
-        Due.row(x, 0, 1, 2, 3);
+        Lead.row(x, 0, 1, 2, 3);
         due.is("6: the first", x.which(0), 0);
-        Due.row(x, 3, 1, 3, 2, 9, 9);
+        Lead.row(x, 3, 1, 3, 2, 9, 9);
         due.is("6: the second, with more behind", x.which(3), 1);
     }
 
     private static void swap() {
-        SwapTables x = of(4, 0, 0, 0, 0);
+        SwapTables x = Lead.shape(4);
         due.is("7: first", x.swap(0, 1), 1);
         due.is("7: second", x.swap(0, 2), 2);
-        order("7: the swap is done first", x, 0, 2, 3, 1, 4);
+        due.order("7: the swap is done first", x, 0, 2, 3, 1, 4);
         due.is("7: the same again", x.swap(0, 2), 1);
         due.is("7: of another", x.swap(3, 3), 1);
         due.is("7: k 0", x.swap(0, 0), BAD);
@@ -253,7 +220,7 @@ public final class PromisesTest {
         for (int r : BEYOND) {
             due.is("7: r", x.swap(r, 1), BAD);
         }
-        due.is("7: no swap of one thing", of(1, 0, 0, 0, 0).swap(0, 1), BAD);
+        due.is("7: no swap of one thing", Lead.shape(1).swap(0, 1), BAD);
         due.is("7: steps", x.count(0), 4);
     }
 
@@ -262,11 +229,11 @@ public final class PromisesTest {
         x.swap(0, 1);
         x.swap(1, 2);
         due.is("8: times", x.times(2, 0, 1), 2);
-        order("8: the second is done first", x, 2, 2, 3, 1);
+        due.order("8: the second is done first", x, 2, 2, 3, 1);
         due.is("8: the other way", x.times(3, 1, 0), 2);
-        order("8: the other way", x, 3, 3, 1, 2);
+        due.order("8: the other way", x, 3, 3, 1, 2);
         due.is("8: into itself", x.times(2, 2, 2), 2);
-        order("8: into itself", x, 2, 3, 1, 2);
+        due.order("8: into itself", x, 2, 3, 1, 2);
         due.is("8: nothing left", x.times(0, 0, 0), 0);
         for (int r : BEYOND) {
             due.is("8: r", x.times(r, 0, 0), BAD);
@@ -276,13 +243,13 @@ public final class PromisesTest {
     }
 
     private static void turn() {
-        SwapTables x = of(3, 1, 0, 0, 0);
+        SwapTables x = Lead.shape(3, 1);
         x.swap(1, 1);
         x.swap(1, 2);
         x.swap(1, 3);
-        order("9: before", x, 1, 2, 3, 4, 1);
+        due.order("9: before", x, 1, 2, 3, 4, 1);
         due.is("9: turn", x.turn(1), 3);
-        order("9: turned", x, 1, 4, 1, 2, 3);
+        due.order("9: turned", x, 1, 4, 1, 2, 3);
         due.is("9: of one that stays", x.turn(0), 0);
         due.is("9: that is no step", x.count(0), 4);
         for (int r : BEYOND) {
@@ -293,7 +260,7 @@ public final class PromisesTest {
     private static void takes() {
         SwapTables x = new SwapTables();
         x.swap(2, 2);
-        order("10", x, 2, 1, 3, 2);
+        due.order("10", x, 2, 1, 3, 2);
         due.is("10: i 0", x.takes(2, 0), BAD);
         due.is("10: i above N", x.takes(2, 4), BAD);
         due.is("10: i below", x.takes(2, -1), BAD);
@@ -303,13 +270,13 @@ public final class PromisesTest {
     }
 
     private static void told() {
-        SwapTables x = reading(of(4, 1, 0, 0, 0), 0, "(15)*(23)");
+        SwapTables x = Lead.read(Lead.shape(4, 1), 0, "(15)*(23)");
         due.is("11: length", x.told(0, 0), 8);
         due.is("11: sign", x.told(0, 1), 1);
         due.is("11: type 2, 2, 1", x.told(0, 2), 4);
-        reading(x, 1, "(253)");
+        Lead.read(x, 1, "(253)");
         due.is("11: type 3, 1, 1", x.told(1, 2), 3);
-        reading(x, 2, "(132)*(45)");
+        Lead.read(x, 2, "(132)*(45)");
         due.is("11: type 3, 2", x.told(2, 2), 2);
         due.is("11: odd", x.told(2, 1), -1);
         due.is("11: type of what stays", x.told(3, 2), 6);
@@ -322,7 +289,7 @@ public final class PromisesTest {
 
     private static void word() {
         SwapTables x = new SwapTables();
-        reading(x, 0, "(13)");
+        Lead.read(x, 0, "(13)");
         int[] first = {1, 2, 1};
         for (int i = 0; i < 3; i++) {
             due.is("12: of (13)", x.word(0, i), first[i]);
@@ -334,18 +301,18 @@ public final class PromisesTest {
         for (int r : BEYOND) {
             due.is("12: r", x.word(r, 0), BAD);
         }
-        x = reading(of(5, 0, 0, 0, 0), 2, "(15)*(24)");
+        x = Lead.read(Lead.shape(5), 2, "(15)*(24)");
         int[] longest = {1, 2, 1, 3, 2, 1, 4, 3, 2, 1};
         for (int i = 0; i < 10; i++) {
             due.is("12: of the longest", x.word(2, i), longest[i]);
         }
-        reading(x, 3, "s3*s1");
+        Lead.read(x, 3, "s3*s1");
         due.is("12: the first by numbers", x.word(3, 0), 1);
         due.is("12: then the other", x.word(3, 1), 3);
     }
 
     private static void partition() {
-        SwapTables x = of(5, 0, 0, 0, 0);
+        SwapTables x = Lead.shape(5);
         int[][] parts = {{5}, {4, 1}, {3, 2}, {3, 1, 1}, {2, 2, 1}, {2, 1, 1, 1}, {1, 1, 1, 1, 1}};
         due.is("13: how many", x.partition(-1, 0), 7);
         due.is("13: i does not matter", x.partition(-1, Integer.MIN_VALUE), 7);
@@ -363,7 +330,7 @@ public final class PromisesTest {
         due.is("13: k below", x.partition(-2, 0), BAD);
         int[] amounts = {1, 2, 3, 5};
         for (int n = 1; n <= 4; n++) {
-            due.is("13: of " + n, of(n, 0, 0, 0, 0).partition(-1, 0), amounts[n - 1]);
+            due.is("13: of " + n, Lead.shape(n).partition(-1, 0), amounts[n - 1]);
         }
     }
 
@@ -372,11 +339,11 @@ public final class PromisesTest {
         due.is("14: nothing", x.straight(0, 0), VOID);
         x.vector(0, 0);
         due.is("14: a vector", x.straight(0, 0), VOID);
-        Due.row(x, 0, 1, 2);
+        Lead.row(x, 0, 1, 2);
         due.is("14: too few", x.straight(0, 0), VOID);
-        Due.row(x, 0, 1, 1, 2);
+        Lead.row(x, 0, 1, 1, 2);
         due.is("14: no filling", x.straight(0, 0), VOID);
-        Due.row(x, 0, 2, 1, 3, 77);
+        Lead.row(x, 0, 2, 1, 3, 77);
         due.is("14: 2 1 by 3, of 0", x.straight(0, 0), 1);
         due.is("14: 2 1 by 3, of 1", x.straight(0, 1), -1);
         due.is("14: j", x.straight(0, 2), VOID);
@@ -385,16 +352,16 @@ public final class PromisesTest {
             due.is("14: shelf", x.straight(shelf, 0), VOID);
         }
         x.shape(2, 2, 0, 0, 0);
-        Due.row(x, 1, 2, 1, 3, 4);
+        Lead.row(x, 1, 2, 1, 3, 4);
         due.is("14: 2 1 by 3 4, of 0", x.straight(1, 0), 1);
         due.is("14: 2 1 by 3 4, of 1", x.straight(1, 1), -1);
         x.shape(1, 1, 1, 0, 0);
-        Due.row(x, 1, 2, 1, 3);
+        Lead.row(x, 1, 2, 1, 3);
         due.is("14: in a column only the sign is told", x.straight(1, 0), -1);
     }
 
     private static void whole() {
-        SwapTables x = reading(new SwapTables(), 0, "(123)");
+        SwapTables x = Lead.read(new SwapTables(), 0, "(123)");
         long[][] table = {{0, -1}, {1, -1}};
         for (int k = 0; k < 2; k++) {
             for (int j = 0; j < 2; j++) {
@@ -440,7 +407,7 @@ public final class PromisesTest {
     }
 
     private static void norm() {
-        SwapTables x = of(3, 1, 0, 0, 0);
+        SwapTables x = Lead.shape(3, 1);
         long[] above = {1, 8, 2};
         long[] below = {1, 9, 3};
         for (int k = 0; k < 3; k++) {
@@ -456,11 +423,11 @@ public final class PromisesTest {
     }
 
     private static void character() {
-        SwapTables x = of(3, 2, 0, 0, 0);
+        SwapTables x = Lead.shape(3, 2);
         String[] texts = {"(12345)", "(1234)", "(123)*(45)", "(123)", "(12)*(34)", "s3", "e"};
         long[] characters = {0, -1, 1, -1, 1, 1, 5};
         for (int i = 0; i < texts.length; i++) {
-            reading(x, 2, texts[i]);
+            Lead.read(x, 2, texts[i]);
             due.is("18: of " + texts[i], x.character(2), characters[i]);
         }
         for (int r : BEYOND) {
@@ -470,7 +437,7 @@ public final class PromisesTest {
 
     private static void characterOf() {
         long[][] table = {{-1, 0, -1, 1, 0, 2, 4}, {1, 0, 0, 0, -2, 0, 6}, {1, -1, -1, 1, 1, -1, 1}};
-        SwapTables[] benches = {of(4, 1, 0, 0, 0), of(3, 1, 1, 0, 0), of(1, 1, 1, 1, 1)};
+        SwapTables[] benches = {Lead.shape(4, 1), Lead.shape(3, 1, 1), Lead.shape(1, 1, 1, 1, 1)};
         for (int i = 0; i < benches.length; i++) {
             for (int k = 0; k < 7; k++) {
                 due.is("19: " + i + " of " + k, benches[i].characterOf(k), table[i][k]);
@@ -482,7 +449,7 @@ public final class PromisesTest {
     }
 
     private static void branch() {
-        SwapTables x = of(3, 1, 1, 0, 0);
+        SwapTables x = Lead.shape(3, 1, 1);
         due.is("20: bits", x.branch(-1), 5);
         due.is("20: 2, 1, 1 is left", x.branch(0), 3);
         due.is("20: row 1 can't", x.branch(1), NOT);
@@ -499,7 +466,7 @@ public final class PromisesTest {
     }
 
     private static void vector() {
-        SwapTables x = of(3, 1, 0, 0, 0);
+        SwapTables x = Lead.shape(3, 1);
         x.row(0, 4);
         due.is("21: over a row", x.vector(0, 2), 3);
         for (int k = 0; k < 3; k++) {
@@ -549,7 +516,7 @@ public final class PromisesTest {
     }
 
     private static void acts() {
-        SwapTables x = reading(new SwapTables(), 1, "(123)");
+        SwapTables x = Lead.read(new SwapTables(), 1, "(123)");
         due.is("24: nothing", x.acts(0, 1), -11);
         due.is("24: r before nothing", x.acts(0, 4), BAD);
         x.row(0, 3);
@@ -576,7 +543,7 @@ public final class PromisesTest {
     }
 
     private static void actsOnSix() {
-        SwapTables x = of(3, 1, 1, 0, 0);
+        SwapTables x = Lead.shape(3, 1, 1);
         x.swap(0, 1);
         for (int k = 0; k < 6; k++) {
             x.vector(1, k);
@@ -588,7 +555,7 @@ public final class PromisesTest {
         }
         // (13) makes of a and b: -a -b and b.
         x.shape(2, 1, 0, 0, 0);
-        reading(x, 0, "(13)");
+        Lead.read(x, 0, "(13)");
         x.vector(1, 1);
         x.give(1, 0, 999);
         due.is("24: only the first would be beyond", x.acts(1, 0), STATE);
@@ -676,7 +643,7 @@ public final class PromisesTest {
         due.is("28: nothing", x.get(0, 0), VOID);
         x.vector(0, 0);
         due.is("28: a vector", x.get(0, 0), VOID);
-        Due.row(x, 0, 4, -5);
+        Lead.row(x, 0, 4, -5);
         due.is("28: get", x.get(0, 0), 4);
         due.is("28: get", x.get(0, 1), -5);
         due.is("28: place", x.get(0, 2), VOID);
@@ -687,7 +654,7 @@ public final class PromisesTest {
     }
 
     private static void film() {
-        SwapTables x = of(2, 2, 0, 0, 0);
+        SwapTables x = Lead.shape(2, 2);
         x.vector(0, 0);
         due.is("29: film", x.film(0, 1), 4);
         int[] cells = {1, 3, 2, 4};
@@ -704,24 +671,24 @@ public final class PromisesTest {
     }
 
     private static void judge() {
-        SwapTables x = of(3, 1, 0, 0, 0);
+        SwapTables x = Lead.shape(3, 1);
         due.is("30: nothing", x.judge(0), -11);
         x.vector(0, 0);
         due.is("30: a vector", x.judge(0), -12);
-        Due.row(x, 0, 1, 2, 1, 3, 2, 1);
+        Lead.row(x, 0, 1, 2, 1, 3, 2, 1);
         due.is("30: the longest", x.judge(0), NOT);
-        Due.row(x, 0, 1, 2, 1, 3, 2, 1, 3);
+        Lead.row(x, 0, 1, 2, 1, 3, 2, 1, 3);
         due.is("30: one more", x.judge(0), 6);
-        Due.row(x, 0, 1, 2, 1, 2, 0);
+        Lead.row(x, 0, 1, 2, 1, 2, 0);
         due.is("30: shorter", x.judge(0), 3);
-        Due.row(x, 0, 1, 4, 1);
+        Lead.row(x, 0, 1, 4, 1);
         due.is("30: no swap", x.judge(0), 1);
-        Due.row(x, 0, 0);
+        Lead.row(x, 0, 0);
         due.is("30: 0", x.judge(0), 0);
-        Due.row(x, 0);
+        Lead.row(x, 0);
         due.is("30: none", x.judge(0), NOT);
         x.shape(1, 0, 0, 0, 0);
-        Due.row(x, 0, 1);
+        Lead.row(x, 0, 1);
         due.is("30: one thing has no swap", x.judge(0), 0);
         for (int shelf : BEYOND) {
             due.is("30: shelf", x.judge(shelf), BAD);
@@ -736,19 +703,19 @@ public final class PromisesTest {
         x.swap(3, 1);
         x.swap(3, 2);
         x.turn(3);
-        reading(x, 1, "(123)");
+        Lead.read(x, 1, "(123)");
         due.is("31: steps", x.count(0), 6);
         due.is("31: of read", x.back(), 5);
-        order("31: of read", x, 1, 1, 2, 3);
+        due.order("31: of read", x, 1, 1, 2, 3);
         due.is("31: of turn", x.back(), 4);
-        order("31: of turn", x, 3, 2, 3, 1);
+        due.order("31: of turn", x, 3, 2, 3, 1);
         due.is("31: of swap", x.back(), 3);
-        order("31: of swap", x, 3, 2, 1, 3);
+        due.order("31: of swap", x, 3, 2, 1, 3);
         due.is("31: of swap again", x.back(), 2);
         due.is("31: of times", x.back(), 1);
-        order("31: of times", x, 2, 1, 2, 3);
+        due.order("31: of times", x, 2, 1, 2, 3);
         due.is("31: the last", x.back(), 0);
-        order("31: as at first", x, 0, 1, 2, 3);
+        due.order("31: as at first", x, 0, 1, 2, 3);
         due.is("31: none", x.back(), STATE);
         due.is("31: none again", x.back(), STATE);
     }
@@ -764,20 +731,20 @@ public final class PromisesTest {
             due.is("31: back", x.back(), i);
         }
         due.is("31: the eldest is none", x.back(), STATE);
-        order("31: the first swap stays", x, 0, 2, 1, 3);
-        order("31: and that of 1", x, 1, 1, 3, 2);
+        due.order("31: the first swap stays", x, 0, 2, 1, 3);
+        due.order("31: and that of 1", x, 1, 1, 3, 2);
         x.swap(0, 1);
         x.swap(0, 9);
         x.turn(7);
         due.is("31: refusals are no steps", x.count(0), 1);
-        reading(x, 0, "e");
+        Lead.read(x, 0, "e");
         due.is("31: read of what it was is none", x.count(0), 1);
         x.times(0, 0, 0);
         due.is("31: times of what it was is none", x.count(0), 1);
     }
 
     private static void backThroughAll() {
-        SwapTables x = of(4, 0, 0, 0, 0);
+        SwapTables x = Lead.shape(4);
         int many = 17;
         int[] told = new int[many + 1];
         for (int i = 0; i < many; i++) {
@@ -821,32 +788,32 @@ public final class PromisesTest {
     private static void wipe() {
         SwapTables x = new SwapTables();
         due.is("33: none", x.wipe(), 0);
-        Due.feed(x, "s1*x");
+        Lead.feed(x, "s1*x");
         due.is("33: four", x.wipe(), 4);
         due.is("33: none left", x.count(1), 0);
-        text(x, "s2", 1);
+        due.text(x, "s2", 1);
     }
 
     private static void read() {
-        SwapTables x = of(4, 1, 0, 0, 0);
-        text(x, "e", 0);
-        text(x, "s1*s2", 2);
-        order("34: in this order", x, 0, 2, 3, 1, 4, 5);
-        text(x, "~[s1*s2]", 2);
-        order("34: turned", x, 0, 3, 1, 2, 4, 5);
-        text(x, "~s1*s2", 2);
-        order("34: only the part is turned", x, 0, 2, 3, 1, 4, 5);
-        text(x, "(1325)", 7);
-        order("34: a cycle", x, 0, 3, 5, 2, 4, 1);
-        text(x, "~(1325)", 7);
-        order("34: a cycle turned", x, 0, 5, 3, 1, 4, 2);
-        text(x, "~~(1325)", 7);
-        order("34: turned twice", x, 0, 3, 5, 2, 4, 1);
-        text(x, "[s4*~[(123)*[s1]]]*e*(45)", 3);
-        order("34: brackets", x, 0, 3, 2, 1, 4, 5);
-        text(x, "[[[e]]]*[[[s1]]]", 1);
-        text(x, "(54321)", 4);
-        Due.feed(x, "s1");
+        SwapTables x = Lead.shape(4, 1);
+        due.text(x, "e", 0);
+        due.text(x, "s1*s2", 2);
+        due.order("34: in this order", x, 0, 2, 3, 1, 4, 5);
+        due.text(x, "~[s1*s2]", 2);
+        due.order("34: turned", x, 0, 3, 1, 2, 4, 5);
+        due.text(x, "~s1*s2", 2);
+        due.order("34: only the part is turned", x, 0, 2, 3, 1, 4, 5);
+        due.text(x, "(1325)", 7);
+        due.order("34: a cycle", x, 0, 3, 5, 2, 4, 1);
+        due.text(x, "~(1325)", 7);
+        due.order("34: a cycle turned", x, 0, 5, 3, 1, 4, 2);
+        due.text(x, "~~(1325)", 7);
+        due.order("34: turned twice", x, 0, 3, 5, 2, 4, 1);
+        due.text(x, "[s4*~[(123)*[s1]]]*e*(45)", 3);
+        due.order("34: brackets", x, 0, 3, 2, 1, 4, 5);
+        due.text(x, "[[[e]]]*[[[s1]]]", 1);
+        due.text(x, "(54321)", 4);
+        Lead.feed(x, "s1");
         for (int r : BEYOND) {
             due.is("34: r", x.read(r), BAD);
         }
@@ -857,9 +824,9 @@ public final class PromisesTest {
         for (int i = 0; i < 26; i++) {
             longest.append("s1*");
         }
-        text(x, longest.append("s2").toString(), 1);
-        order("34: 80 bytes", x, 0, 1, 3, 2, 4, 5);
-        text(of(1, 0, 0, 0, 0), "~[e*e]", 0);
+        due.text(x, longest.append("s2").toString(), 1);
+        due.order("34: 80 bytes", x, 0, 1, 3, 2, 4, 5);
+        due.text(Lead.shape(1), "~[e*e]", 0);
     }
 
     private static void readFaults() {
@@ -867,16 +834,16 @@ public final class PromisesTest {
             "[]", "[e", "[e*", "[e*]", "e]", "[e]]", "e*", "ee", "e e", " e", "E", "[[[[e]]]]", "s1s2", "s1~s2", "(12)(34)",
             "(1111(", "[[[e]*[e]*[[e]]]]", "e**e", "s~1", "(~12)", "x"};
         int[] faults = {0, 0, 1, 1, 1, 2, 1, 1, 2, 2, 3, 3, 3, 2, 1, 2, 1, 1, 2, 3, 3, 1, 3, 2, 1, 1, 0, 0, 3, 2, 2, 4, 5, 11, 2, 1, 1, 0};
-        SwapTables x = of(5, 0, 0, 0, 0);
+        SwapTables x = Lead.shape(5);
         x.swap(0, 1);
         for (int i = 0; i < texts.length; i++) {
-            text(x, texts[i], -100 - faults[i]);
+            due.text(x, texts[i], -100 - faults[i]);
         }
         due.is("34: no step by a fault", x.count(0), 1);
-        order("34: nothing changes by a fault", x, 0, 2, 1, 3, 4, 5);
+        due.order("34: nothing changes by a fault", x, 0, 2, 1, 3, 4, 5);
         x.shape(2, 1, 0, 0, 0);
-        text(x, "s5*(44)*x", -108);
-        troubles("34: the fault is told, not what is wrong", x, 1, 8);
+        due.text(x, "s5*(44)*x", -108);
+        due.troubles("34: the fault is told, not what is wrong", x, 1, 8);
     }
 
     private static void readWrong() {
@@ -884,45 +851,45 @@ public final class PromisesTest {
         String[] texts = {"s3", "s5", "(14)", "(11)", "(1231)", "e*[s1*~(124)]", "(1212)", "(41)*s5", "(114)", "(12345)"};
         int[] places = {1, 1, 2, 2, 4, 10, 3, 1, 2, 4};
         for (int i = 0; i < texts.length; i++) {
-            text(x, texts[i], NOT);
+            due.text(x, texts[i], NOT);
             int last = x.count(2) - 1;
             due.is("34: sort of " + texts[i], x.why(last, 0), 4);
             due.is("34: place of " + texts[i], x.why(last, 1), places[i]);
         }
-        order("34: nothing changes by what is wrong", x, 0, 1, 2, 3);
+        due.order("34: nothing changes by what is wrong", x, 0, 1, 2, 3);
         due.is("34: no step by what is wrong", x.count(0), 0);
-        text(of(5, 0, 0, 0, 0), "s5", NOT);
-        text(of(1, 0, 0, 0, 0), "s1", NOT);
-        text(of(1, 0, 0, 0, 0), "(11)", NOT);
+        due.text(Lead.shape(5), "s5", NOT);
+        due.text(Lead.shape(1), "s1", NOT);
+        due.text(Lead.shape(1), "(11)", NOT);
     }
 
     private static void why() {
         SwapTables x = new SwapTables();
-        text(x, "[~[~~[s", -107);
-        troubles("35: all open", x, 2, 0, 3, 1, 2, 2, 3, 3, 3, 4, 2, 5, 1, 7);
-        text(x, "~[~s1x", -105);
-        troubles("35: the part is whole", x, 3, 0, 2, 1, 1, 5);
-        text(x, "~[s1]x", -105);
-        troubles("35: the bracket is shut, and its ~", x, 1, 5);
-        text(x, "~~[s1]*x", -107);
-        troubles("35: behind the star", x, 1, 7);
-        text(x, "[~e*~", -105);
-        troubles("35: the second ~ alone", x, 2, 0, 3, 4, 1, 5);
-        text(x, "~[[s1]*s3]", NOT);
-        troubles("35: wrong", x, 3, 0, 2, 1, 4, 8);
-        text(x, "~~s3*(44)", NOT);
-        troubles("35: the first wrong one", x, 3, 0, 3, 1, 4, 3);
-        text(x, "[[[[", -103);
-        troubles("35: the fourth is not open", x, 2, 0, 2, 1, 2, 2, 1, 3);
-        text(x, "~(1)", -103);
-        troubles("35: in a cycle", x, 3, 0, 1, 3);
-        text(x, "", -100);
-        troubles("35: nothing told", x, 1, 0);
+        due.text(x, "[~[~~[s", -107);
+        due.troubles("35: all open", x, 2, 0, 3, 1, 2, 2, 3, 3, 3, 4, 2, 5, 1, 7);
+        due.text(x, "~[~s1x", -105);
+        due.troubles("35: the part is whole", x, 3, 0, 2, 1, 1, 5);
+        due.text(x, "~[s1]x", -105);
+        due.troubles("35: the bracket is shut, and its ~", x, 1, 5);
+        due.text(x, "~~[s1]*x", -107);
+        due.troubles("35: behind the star", x, 1, 7);
+        due.text(x, "[~e*~", -105);
+        due.troubles("35: the second ~ alone", x, 2, 0, 3, 4, 1, 5);
+        due.text(x, "~[[s1]*s3]", NOT);
+        due.troubles("35: wrong", x, 3, 0, 2, 1, 4, 8);
+        due.text(x, "~~s3*(44)", NOT);
+        due.troubles("35: the first wrong one", x, 3, 0, 3, 1, 4, 3);
+        due.text(x, "[[[[", -103);
+        due.troubles("35: the fourth is not open", x, 2, 0, 2, 1, 2, 2, 1, 3);
+        due.text(x, "~(1)", -103);
+        due.troubles("35: in a cycle", x, 3, 0, 1, 3);
+        due.text(x, "", -100);
+        due.troubles("35: nothing told", x, 1, 0);
         StringBuilder turned = new StringBuilder();
         for (int i = 0; i < 80; i++) {
             turned.append('~');
         }
-        text(x, turned.toString(), -180);
+        due.text(x, turned.toString(), -180);
         due.is("35: 81 troubles", x.count(2), 81);
         due.is("35: the last ~", x.why(79, 1), 79);
         due.is("35: the fault", x.why(80, 1), 80);
@@ -937,17 +904,17 @@ public final class PromisesTest {
     private static void whyStays() {
         SwapTables x = new SwapTables();
         x.image();
-        text(x, "[s3]", NOT);
-        text(x, "s2", 1);
-        troubles("35: stays by a read", x, 2, 0, 4, 2);
+        due.text(x, "[s3]", NOT);
+        due.text(x, "s2", 1);
+        due.troubles("35: stays by a read", x, 2, 0, 4, 2);
         due.is("35: BAD", x.read(4), BAD);
         x.shape(3, 0, 0, 0, 0);
         x.restore();
         x.wipe();
         x.back();
-        troubles("35: stays", x, 2, 0, 4, 2);
-        text(x, "e!", -101);
-        troubles("35: the next one", x, 1, 1);
+        due.troubles("35: stays", x, 2, 0, 4, 2);
+        due.text(x, "e!", -101);
+        due.troubles("35: the next one", x, 1, 1);
     }
 
     private static void image() {
@@ -967,7 +934,7 @@ public final class PromisesTest {
         due.is("37: none", x.restore(), STATE);
         x.swap(2, 2);
         x.vector(0, 1);
-        Due.row(x, 1, 5, 6);
+        Lead.row(x, 1, 5, 6);
         x.image();
         x.give(0, 1, 44);
         x.put(1, 0, 7);
@@ -980,8 +947,8 @@ public final class PromisesTest {
         for (int twice = 0; twice < 2; twice++) {
             due.is("37: N", x.restore(), 3);
             due.is("37: D", x.of(2), 2);
-            order("37: register", x, 2, 1, 3, 2);
-            order("37: register 0", x, 0, 1, 2, 3);
+            due.order("37: register", x, 2, 1, 3, 2);
+            due.order("37: register 0", x, 0, 1, 2, 3);
             due.is("37: vector", x.has(0, 1), 1);
             due.is("37: row", x.get(1, 0), 5);
             due.is("37: row, place 1", x.get(1, 1), 6);
@@ -995,14 +962,14 @@ public final class PromisesTest {
     }
 
     private static void count() {
-        SwapTables x = of(3, 1, 1, 0, 0);
-        reading(x, 0, "(15)");
-        reading(x, 1, "(12345)");
+        SwapTables x = Lead.shape(3, 1, 1);
+        Lead.read(x, 0, "(15)");
+        Lead.read(x, 1, "(12345)");
         x.swap(3, 1);
         x.row(0, 0);
         x.vector(3, 0);
-        reading(x, 2, "[~");
-        Due.feed(x, "s1*s2");
+        Lead.read(x, 2, "[~");
+        Lead.feed(x, "s1*s2");
         int[] counts = {3, 5, 3, 2, 12};
         for (int what = 0; what < 5; what++) {
             due.is("38: count " + what, x.count(what), counts[what]);

@@ -9,11 +9,6 @@ import java.util.Random;
 public final class RandomRunsTest {
     private static final int RUNS = 3000;
     private static final int[] EXTREMES = {Integer.MIN_VALUE, Integer.MAX_VALUE, -15, -1000, 1000, 999, -999, 20, 21, 255, 256};
-    private static final int[][] SHAPES = {
-        {1, 0, 0, 0, 0}, {2, 0, 0, 0, 0}, {1, 1, 0, 0, 0}, {3, 0, 0, 0, 0}, {2, 1, 0, 0, 0}, {1, 1, 1, 0, 0},
-        {4, 0, 0, 0, 0}, {3, 1, 0, 0, 0}, {2, 2, 0, 0, 0}, {2, 1, 1, 0, 0}, {1, 1, 1, 1, 0}, {5, 0, 0, 0, 0},
-        {4, 1, 0, 0, 0}, {3, 2, 0, 0, 0}, {3, 1, 1, 0, 0}, {2, 2, 1, 0, 0}, {2, 1, 1, 1, 0}, {1, 1, 1, 1, 1}
-    };
     private static final String LETTERS = "s12345()~[]*e0";
 
     private static final Due due = new Due("RandomRunsTest");
@@ -48,7 +43,7 @@ public final class RandomRunsTest {
         switch (random.nextInt(12)) {
             case 0:
                 if (random.nextInt(4) == 0) {
-                    call("shape", SHAPES[random.nextInt(SHAPES.length)]);
+                    call("shape", Lead.SHAPES[random.nextInt(Lead.SHAPES.length)]);
                 }
                 break;
             case 1:
