@@ -25,6 +25,7 @@ public final class BenchEdgesTest {
         judgedNoSwap();
         judgedNoLonger();
         judgedBeyondN();
+        whatIsAStep();
         tenSteps();
         theEldestIsNone();
         roomAgainBehindBack();
@@ -304,6 +305,35 @@ public final class BenchEdgesTest {
     }
 
     // ---- STEPS
+
+    private static void whatIsAStep() {
+        due.sentence("STEPS: what swap(), times(), turn(), read() (of a REGISTER) made otherwise can be taken BACK");
+        SwapTables x = Lead.shape(3, 1, 1);
+        x.swap(0, 4);
+        due.is("swap", x.count(0), 1);
+        x.times(1, 0, 0);
+        x.times(1, 0, 1);
+        due.is("times", x.count(0), 2);
+        Lead.read(x, 2, "(123)");
+        due.is("read", x.count(0), 3);
+        x.turn(2);
+        due.is("turn", x.count(0), 4);
+        x.vector(0, 0);
+        x.give(0, 0, 5);
+        x.acts(0, 2);
+        x.row(1, 5);
+        x.put(1, 0, 3);
+        x.film(2, 0);
+        x.image();
+        x.feed('s');
+        x.wipe();
+        due.is("nothing else", x.count(0), 4);
+        for (int left = 3; left >= 0; left--) {
+            due.is("back", x.back(), left);
+        }
+        due.is("shelves stay as they are", x.count(3), 3);
+        due.is("what was put stays", x.get(1, 0), 3);
+    }
 
     private static void tenSteps() {
         due.sentence("can be taken BACK, the latest first, 10 at most (then the eldest is none any more).");

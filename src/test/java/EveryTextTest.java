@@ -1,6 +1,6 @@
 /**
- * Every TEXT of up to eight bytes, against Slow. Where one has a FAULT at a byte, no longer one that begins so is looked
- * at, for it has the same.
+ * Every TEXT of up to eight of these LETTERS, against Slow. Where one has a FAULT at a byte, no longer one that begins so
+ * is looked at, for it has the same.
  */
 public final class EveryTextTest {
     private static final String LETTERS = "s(~[e)]*1236 ";

@@ -29,6 +29,7 @@ public final class RefusalsTest {
         everyShapeAndNoOther();
         shapeIsRefused();
         swapsOfOneThing();
+        byWhatLiesThere();
         which();
         whichOfSeveral();
         straight();
@@ -118,6 +119,50 @@ public final class RefusalsTest {
     }
 
     // ---- SHELVES
+
+    /** Of what lies there: 0 nothing, 1 a VECTOR, 2 a ROW of no places. */
+    private static SwapTables lying(int what) {
+        SwapTables x = Twins.mixed();
+        x.row(3, -1);
+        if (what == 1) {
+            x.vector(3, 1);
+        } else if (what == 2) {
+            x.row(3, 0);
+        }
+        return x;
+    }
+
+    private static void byWhatLiesThere() {
+        due.sentence("SHELVES refuse by what lies there: -11 nothing, -12 something of the other sort, -13 a place outside,"
+            + " -14 a size below 0.");
+        ToLongFunction<SwapTables> which = x -> x.which(3);
+        ToLongFunction<SwapTables> put = x -> x.put(3, 0, 1);
+        ToLongFunction<SwapTables> judge = x -> x.judge(3);
+        ToLongFunction<SwapTables> acts = x -> x.acts(3, 0);
+        twins.refuses("which of nothing", () -> lying(0), which, NOTHING);
+        twins.refuses("put on nothing", () -> lying(0), put, NOTHING);
+        twins.refuses("judge nothing", () -> lying(0), judge, NOTHING);
+        twins.refuses("acts on nothing", () -> lying(0), acts, NOTHING);
+        twins.refuses("which of a vector", () -> lying(1), which, OTHER);
+        twins.refuses("put on a vector", () -> lying(1), put, OTHER);
+        twins.refuses("judge a vector", () -> lying(1), judge, OTHER);
+        twins.refuses("acts on a row", () -> lying(2), acts, OTHER);
+        twins.refuses("which of a row of 0", () -> lying(2), which, OUTSIDE);
+        twins.refuses("put into a row of 0", () -> lying(2), put, OUTSIDE);
+        twins.refuses("judge a row of 0", () -> lying(2), judge, NOT);
+        for (int what = 0; what < 3; what++) {
+            int lies = what;
+            twins.refuses("a size below 0 on " + what, () -> lying(lies), x -> x.row(3, -2), BELOW);
+            twins.refuses("straight of " + what, () -> lying(lies), x -> x.straight(3, 0), VOID);
+            twins.refuses("get of " + what, () -> lying(lies), x -> x.get(3, 0), VOID);
+            if (what != 1) {
+                twins.refuses("give to " + what, () -> lying(lies), x -> x.give(3, 0, 1), VOID);
+                twins.refuses("has of " + what, () -> lying(lies), x -> x.has(3, 0), VOID);
+                twins.refuses("inner with " + what, () -> lying(lies), x -> x.inner(0, 3, 0), VOID);
+                twins.refuses("inner of " + what, () -> lying(lies), x -> x.inner(3, 0, 0), VOID);
+            }
+        }
+    }
 
     private static void which() {
         due.sentence("Which STANDARD one a ROW tells. BAD: shelf; -11; -12; -13: it has fewer than N places;"

@@ -112,15 +112,10 @@ final class Slow {
     }
 
     long which(int shelf) {
-        if (shelf < 0 || shelf > 3) {
-            return -1;
+        if (refusal(shelf, int[].class) != 0) {
+            return refusal(shelf, int[].class);
         }
-        if (shelves[shelf] == null) {
-            return -11;
-        }
-        if (!(shelves[shelf] instanceof int[] row)) {
-            return -12;
-        }
+        int[] row = (int[]) shelves[shelf];
         if (row.length < world.n) {
             return -13;
         }
@@ -263,6 +258,17 @@ final class Slow {
         return shelf >= 0 && shelf < 4;
     }
 
+    /** 0, if a thing of this sort lies there: a ROW is an int[], a VECTOR a long[]. */
+    private long refusal(int shelf, Class<?> sort) {
+        if (!isS(shelf)) {
+            return -1;
+        }
+        if (shelves[shelf] == null) {
+            return -11;
+        }
+        return sort.isInstance(shelves[shelf]) ? 0 : -12;
+    }
+
     long vector(int shelf, int k) {
         if (!isS(shelf) || !isK(k)) {
             return -1;
@@ -290,12 +296,10 @@ final class Slow {
         if (!isS(shelf) || !isR(r)) {
             return -1;
         }
-        if (shelves[shelf] == null) {
-            return -11;
+        if (refusal(shelf, long[].class) != 0) {
+            return refusal(shelf, long[].class);
         }
-        if (!(shelves[shelf] instanceof long[] numbers)) {
-            return -12;
-        }
+        long[] numbers = (long[]) shelves[shelf];
         long[] made = new long[numbers.length];
         for (int k = 0; k < made.length; k++) {
             for (int j = 0; j < made.length; j++) {
@@ -337,15 +341,10 @@ final class Slow {
     }
 
     long put(int shelf, int i, int v) {
-        if (!isS(shelf)) {
-            return -1;
+        if (refusal(shelf, int[].class) != 0) {
+            return refusal(shelf, int[].class);
         }
-        if (shelves[shelf] == null) {
-            return -11;
-        }
-        if (!(shelves[shelf] instanceof int[] row)) {
-            return -12;
-        }
+        int[] row = (int[]) shelves[shelf];
         if (i < 0 || i >= row.length) {
             return -13;
         }
@@ -366,15 +365,10 @@ final class Slow {
     }
 
     long judge(int shelf) {
-        if (!isS(shelf)) {
-            return -1;
+        if (refusal(shelf, int[].class) != 0) {
+            return refusal(shelf, int[].class);
         }
-        if (shelves[shelf] == null) {
-            return -11;
-        }
-        if (!(shelves[shelf] instanceof int[] row)) {
-            return -12;
-        }
+        int[] row = (int[]) shelves[shelf];
         int[] order = world.identity();
         for (int i = 0; i < row.length; i++) {
             if (row[i] < 1 || row[i] >= world.n) {

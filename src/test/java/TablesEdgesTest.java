@@ -22,9 +22,14 @@ public final class TablesEdgesTest {
         hooksAndContents();
         cellsUnderALongerRow();
         standardOnes();
+        fillings();
+        standardFillings();
+        whichOfEach();
         registersAtFirst();
         oneRegisterEach();
+        eachOnce();
         swaps();
+        swapIsDoneFirst();
         lengths();
         signs();
         words();
@@ -100,7 +105,8 @@ public final class TablesEdgesTest {
     }
 
     private static void shapesThatAreTaken() {
-        due.sentence("rows 0, 1, .. of cells (1 .. 5 rows, each as long as the one above it or shorter, N cells in all, N 1 .. 5;");
+        due.sentence("rows 0, 1, .. of cells (1 .. 5 rows, each as long as the one above it or shorter, N cells in all, N"
+            + " 1 .. 5;");
         SwapTables x = new SwapTables();
         for (int n = 1; n <= 5; n++) {
             for (int s = BEGIN[n]; s < BEGIN[n + 1]; s++) {
@@ -117,7 +123,8 @@ public final class TablesEdgesTest {
     }
 
     private static void shapeThatItIs() {
-        due.sentence("shape() with the SHAPE that it is makes all as told, too (REGISTERS as at first, VECTORS gone, no STEPS).");
+        due.sentence("shape() with the SHAPE that it is makes all as told, too (REGISTERS as at first, VECTORS gone, no"
+            + " STEPS).");
         for (int s = 0; s < Lead.SHAPES.length; s++) {
             SwapTables x = bench(s);
             int n = x.of(0);
@@ -233,6 +240,56 @@ public final class TablesEdgesTest {
         }
     }
 
+    private static int which(int[] shape, int... row) {
+        SwapTables x = Lead.shape(shape);
+        Lead.row(x, 0, row);
+        return x.which(0);
+    }
+
+    private static void fillings() {
+        due.sentence("A FILLING has each number 1 .. N in one cell.");
+        for (int n = 1; n <= 5; n++) {
+            int[] row = {n};
+            int[] rising = new int[n];
+            for (int i = 0; i < n; i++) {
+                rising[i] = i + 1;
+            }
+            due.is("1 .. " + n, which(row, rising), 0);
+            for (int i = 0; i < n; i++) {
+                for (int none : new int[] {0, n + 1, -1, i + 33, i - 31, i + 2, i, Integer.MIN_VALUE, Integer.MAX_VALUE}) {
+                    int[] other = rising.clone();
+                    other[i] = none;
+                    due.is(Arrays.toString(other), which(row, other), SwapTables.STATE);
+                }
+            }
+        }
+    }
+
+    private static void standardFillings() {
+        due.sentence("STANDARD: numbers rise along each row and down each column.");
+        int[] shape = {2, 2, 1};
+        due.is("rises", which(shape, 1, 3, 2, 4, 5), 2);
+        due.is("falls in the first row", which(shape, 3, 1, 4, 2, 5), NOT);
+        due.is("falls in the last row of two", which(shape, 1, 2, 4, 3, 5), NOT);
+        due.is("falls in the last column", which(shape, 1, 4, 2, 3, 5), NOT);
+        due.is("falls down to the last cell", which(shape, 1, 2, 4, 5, 3), NOT);
+        due.is("falls in each", which(shape, 5, 4, 3, 2, 1), NOT);
+        due.is("the one row", which(new int[] {5}, 1, 2, 3, 5, 4), NOT);
+        due.is("the one column", which(new int[] {1, 1, 1, 1, 1}, 2, 1, 3, 4, 5), NOT);
+        due.is("in no row nor column of it", which(new int[] {3, 1, 1}, 1, 4, 5, 2, 3), 5);
+    }
+
+    private static void whichOfEach() {
+        due.sentence("Which STANDARD one a ROW tells.");
+        for (int s = 0; s < Lead.SHAPES.length; s++) {
+            SwapTables x = bench(s);
+            for (int k = 0; k < Lead.STANDARD_ONES[s]; k++) {
+                x.film(k % 4, k);
+                due.is(name(s) + ": " + k, x.which(k % 4), k);
+            }
+        }
+    }
+
     // ---- ORDERS
 
     private static void registersAtFirst() {
@@ -276,6 +333,41 @@ public final class TablesEdgesTest {
         for (int other = 0; other < 4; other++) {
             due.is("register " + r + " alone, of " + other, x.told(other, 0), other == r ? length : 0);
         }
+    }
+
+    private static void eachOnce() {
+        due.sentence("An ORDER takes each of 1 .. N to one of these, each once.");
+        for (int n = 1; n <= 5; n++) {
+            SwapTables x = Lead.shape(n);
+            int r = 0;
+            for (int i = 0; i < 40; i++) {
+                x.swap(r, 1 + i * i % Math.max(1, n - 1));
+                r = (r + 1) % 4;
+                x.times(r, r, (r + 3) % 4);
+                int seen = 0;
+                for (int number = 1; number <= n; number++) {
+                    seen |= 1 << x.takes(r, number);
+                }
+                due.is("of " + n + " as bits", seen, (2 << n) - 2);
+            }
+        }
+    }
+
+    private static void swapIsDoneFirst() {
+        due.sentence("A REGISTER times SWAP k: of the two the SWAP is done first.");
+        SwapTables x = Lead.shape(5);
+        x.swap(0, 1);
+        x.swap(0, 2);
+        due.order("1, then 2", x, 0, 2, 3, 1, 4, 5);
+        x.swap(0, 3);
+        x.swap(0, 4);
+        due.order("1 .. 4", x, 0, 2, 3, 4, 5, 1);
+        due.sentence("Product of p and q: that which takes i to where p takes (where q takes i).");
+        Lead.read(x, 1, "s4");
+        x.times(2, 0, 1);
+        due.order("p of s4", x, 2, 2, 3, 4, 1, 5);
+        x.times(2, 1, 0);
+        due.order("s4 of p", x, 2, 2, 3, 5, 4, 1);
     }
 
     private static void swaps() {
@@ -426,7 +518,8 @@ public final class TablesEdgesTest {
         due.sentence("SIGN times the TABLOID of the FILLING with each number so taken, together.");
         SwapTables column = Lead.shape(1, 1, 1, 1, 1);
         SwapTables row = Lead.shape(5);
-        int[][] fillings = {{1, 2, 3, 4, 5}, {2, 1, 3, 4, 5}, {5, 4, 3, 2, 1}, {2, 3, 4, 5, 1}, {1, 2, 3, 5, 4}, {5, 2, 3, 4, 1}};
+        int[][] fillings = {{1, 2, 3, 4, 5}, {2, 1, 3, 4, 5}, {5, 4, 3, 2, 1}, {2, 3, 4, 5, 1}, {1, 2, 3, 5, 4},
+            {5, 2, 3, 4, 1}};
         int[] signs = {1, -1, 1, 1, -1, -1};
         for (int f = 0; f < fillings.length; f++) {
             Lead.row(column, 0, fillings[f]);
@@ -538,6 +631,10 @@ public final class TablesEdgesTest {
             boolean isHook = Lead.SHAPES[s][1] <= 1;
             due.is(name(s) + ": of the first one", x.characterOf(0), isHook ? x.of(1) % 2 == 1 ? 1 : -1 : 0);
             due.is(name(s) + ": behind the last one", x.characterOf(PARTITIONS[n]), VOID);
+            for (int k = 0; k < PARTITIONS[n] && x.of(2) == 1; k++) {
+                boolean isOdd = (n - x.partition(k, -1)) % 2 == 1;
+                due.is(name(s) + ": by SIGN, of " + k, x.characterOf(k), isOdd && x.of(1) == n && n > 1 ? -1 : 1);
+            }
         }
     }
 

@@ -40,6 +40,7 @@ public final class TextEdgesTest {
         whyOfAll();
         whyOfEighty();
         whyStays();
+        eachReadBeginsAnew();
         orderAndLength();
         due.end();
     }
@@ -215,6 +216,10 @@ public final class TextEdgesTest {
     }
 
     private static void turnedParts() {
+        due.sentence("~ and a PART (TURNED);");
+        due.order("a part", Lead.read(of(3), 0, "~(123)"), 0, 3, 1, 2);
+        due.order("not the one behind it", Lead.read(of(3), 0, "~(123)*(123)"), 0, 1, 2, 3);
+        due.order("nor the one ahead", Lead.read(of(3), 0, "(123)*~e"), 0, 2, 3, 1);
         due.sentence("A ~ may stand behind a ~;");
         due.order("once", Lead.read(of(3), 0, "~(123)"), 0, 3, 1, 2);
         due.order("twice", Lead.read(of(3), 0, "~~(123)"), 0, 2, 3, 1);
@@ -523,6 +528,20 @@ public final class TextEdgesTest {
         due.troubles("behind others", x, 2, 0, 4, 2);
         due.text(x, "", -100);
         due.troubles("behind the next", x, 1, 0);
+    }
+
+    /** What was begun, open or WRONG in a text that was refused is nothing to the next one. */
+    private static void eachReadBeginsAnew() {
+        due.sentence("-100 less the FAULT; NOT: WRONG.");
+        SwapTables x = of(3);
+        String[] texts = {"[[[s1*(123)*", "[[[e]]]", "(12)", "(1)", "(23", "s1", "s3", "s2*s1", "~", "(123)", "~~[s", "2",
+            "e]"};
+        int[] answers = {-112, 0, 1, -102, -103, 1, NOT, 2, -101, 2, -104, -100, -101};
+        for (int i = 0; i < texts.length; i++) {
+            due.text(x, texts[i], answers[i]);
+        }
+        due.troubles("of the last alone", x, 1, 1);
+        due.order("what was read last", x, 0, 2, 3, 1);
     }
 
     private static void orderAndLength() {
