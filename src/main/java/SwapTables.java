@@ -26,7 +26,8 @@ public final class SwapTables {
     private final int[] registers = new int[REGISTERS];
     private final Shelf[] shelves = Shelf.emptyOnes();
     private final Steps steps = new Steps();
-    private final Tape tape = new Tape();
+    private final byte[] tape = new byte[MOST_BYTES];
+    private int bytesOnTape;
     private final Reader reader = new Reader();
     private final Image taken = new Image();
     private final int[] sums = new int[MOST_STANDARD];
@@ -342,17 +343,17 @@ public final class SwapTables {
         if (letter < 32 || letter > 126) {
             return BAD;
         }
-        if (tape.size >= MOST_BYTES) {
+        if (bytesOnTape >= MOST_BYTES) {
             return FULL;
         }
-        tape.bytes[tape.size] = (byte) letter;
-        tape.size++;
-        return tape.size;
+        tape[bytesOnTape] = (byte) letter;
+        bytesOnTape++;
+        return bytesOnTape;
     }
 
     public int wipe() {
-        int had = tape.size;
-        tape.size = 0;
+        int had = bytesOnTape;
+        bytesOnTape = 0;
         return had;
     }
 
@@ -360,8 +361,8 @@ public final class SwapTables {
         if (!isRegister(r)) {
             return BAD;
         }
-        int order = reader.workOut(tape, shape.n);
-        tape.size = 0;
+        int order = reader.workOut(tape, bytesOnTape, shape.n);
+        bytesOnTape = 0;
         return order < 0 ? order : makeOtherwise(r, order);
     }
 
@@ -395,7 +396,7 @@ public final class SwapTables {
     public int count(int what) {
         switch (what) {
             case 0: return steps.size;
-            case 1: return tape.size;
+            case 1: return bytesOnTape;
             case 2: return reader.refused.size;
             case 3: return shelvesInUse();
             case 4: return lengthsTogether();
@@ -689,21 +690,21 @@ public final class SwapTables {
                     n++;
                 }
             }
-            fillFrom(1);
+            fillFrom(this, 1);
         }
 
         /** Tries the rows from the top for each number, so that STANDARD ones come in their order. */
-        private void fillFrom(int number) {
-            if (number > n) {
-                keepFilling();
+        private static void fillFrom(Shape shape, int number) {
+            if (number > shape.n) {
+                shape.keepFilling();
                 return;
             }
             for (int row = 0; row < MOST_CELLS; row++) {
-                if (canTakeNext(row)) {
-                    cellNow[number] = beginOfRow[row] + filledOfRow[row];
-                    filledOfRow[row]++;
-                    fillFrom(number + 1);
-                    filledOfRow[row]--;
+                if (shape.canTakeNext(row)) {
+                    shape.cellNow[number] = shape.beginOfRow[row] + shape.filledOfRow[row];
+                    shape.filledOfRow[row]++;
+                    fillFrom(shape, number + 1);
+                    shape.filledOfRow[row]--;
                 }
             }
         }
@@ -1098,11 +1099,6 @@ public final class SwapTables {
         private final Shelf[] shelves = Shelf.emptyOnes();
     }
 
-    private static final class Tape {
-        private int size;
-        private final byte[] bytes = new byte[MOST_BYTES];
-    }
-
     /** TROUBLES, or what is open so far, as rows of sorts and places. */
     private static final class Troubles {
         static final int FAULTY = 1;
@@ -1154,15 +1150,15 @@ public final class SwapTables {
         private int last;
 
         /** The ORDER told, or the refusal, which is below 0. */
-        int workOut(Tape tape, int numbers) {
+        int workOut(byte[] text, int length, int numbers) {
             begin(numbers);
-            for (int place = 0; place < tape.size; place++) {
-                if (!goesOnWith(tape.bytes[place], place)) {
+            for (int place = 0; place < length; place++) {
+                if (!goesOnWith(text[place], place)) {
                     return refuseFault(place);
                 }
             }
             if (awaited != BEHIND_PART || brackets > 0) {
-                return refuseFault(tape.size);
+                return refuseFault(length);
             }
             return isWrong ? NOT : made[0];
         }

@@ -24,6 +24,7 @@ public final class FaceTest {
         membersAreHidden();
         nestedClasses();
         words();
+        methodsAreShort();
         due.end();
     }
 
@@ -56,7 +57,7 @@ public final class FaceTest {
         for (Field field : SwapTables.class.getDeclaredFields()) {
             int kind = constants.contains(field.getName()) ? Modifier.PUBLIC : Modifier.PRIVATE;
             due.holds(field.getName(), (field.getModifiers() & kind) != 0);
-            due.holds(field.getName() + " is final", Modifier.isFinal(field.getModifiers()));
+            due.holds(field.getName() + " is final, if static", isFixedIfStatic(field));
         }
         Set<String> open = new TreeSet<>();
         for (Method method : SwapTables.class.getDeclaredMethods()) {
@@ -76,23 +77,56 @@ public final class FaceTest {
         due.is("parameters of it", constructors[0].getParameterCount(), 0);
     }
 
+    private static boolean isFixedIfStatic(Field field) {
+        return !isStatic(field) || Modifier.isFinal(field.getModifiers());
+    }
+
+    private static boolean isStatic(Field field) {
+        return Modifier.isStatic(field.getModifiers());
+    }
+
     private static void nestedClasses() {
+        long own = Arrays.stream(SwapTables.class.getDeclaredFields()).filter(field -> !isStatic(field)).count();
+        due.holds("some twenty fields beside constants, not " + own, own <= 20);
         List<Class<?>> nested = new ArrayList<>(List.of(SwapTables.class.getDeclaredClasses()));
-        due.holds("some twelve classes", nested.size() <= 12);
+        due.holds("some twelve classes in the file", 1 + nested.size() <= 12);
         for (Class<?> one : nested) {
             due.holds(one + " is static", Modifier.isStatic(one.getModifiers()));
             due.holds(one + " is private", Modifier.isPrivate(one.getModifiers()));
             due.holds(one + " has some twenty fields", one.getDeclaredFields().length <= 20);
             for (Field field : one.getDeclaredFields()) {
-                boolean isFixed = !Modifier.isStatic(field.getModifiers()) || Modifier.isFinal(field.getModifiers());
-                due.holds(field + " is final, if static", isFixed);
+                due.holds(field + " is final, if static", isFixedIfStatic(field));
             }
         }
     }
 
+    private static String withoutComments(String source) {
+        return source.replaceAll("(?s)/\\*.*?\\*/", "").replaceAll("//[^\n]*", "");
+    }
+
+    /** Each method ends where its own indentation comes again. One that calls itself is private and static (rule 8). */
+    private static void methodsAreShort() throws IOException {
+        Matcher method = Pattern.compile("(?m)^( +)((?:public |private )?(?:static )?(?:[\\w\\[\\]]+ )?(\\w+)\\([^)]*\\)) \\{\n"
+            + "((?s:.*?))^\\1}\n").matcher(withoutComments(Files.readString(SOURCE)));
+        int found = 0;
+        while (method.find()) {
+            found++;
+            String head = method.group(2);
+            String body = method.group(4);
+            due.holds(head + " is short", body.lines().count() <= 60);
+            boolean callsItself = Pattern.compile("(?<![.\\w])" + method.group(3) + "\\(").matcher(body).find();
+            due.holds(head + ", if it calls itself, is private and static", !callsItself || head.startsWith("private static"));
+        }
+        int declared = SwapTables.class.getDeclaredMethods().length;
+        for (Class<?> one : SwapTables.class.getDeclaredClasses()) {
+            declared += one.getDeclaredMethods().length;
+        }
+        due.holds("all methods are looked at: " + found + " of " + declared, found >= declared);
+    }
+
     private static void words() throws IOException {
         String source = Files.readString(SOURCE);
-        String code = source.replaceAll("(?s)/\\*.*?\\*/", "").replaceAll("//[^\n]*", "");
+        String code = withoutComments(source);
         String[] ruledOut = {"\\bthrow\\b", "\\btry\\b", "\\bcatch\\b", "\\bsynchronized\\b", "\\bassert\\b", "->", "::",
             "\\bimport\\b", "\\bpackage\\b", "\\bprotected\\b", "\\bdouble\\b", "\\bfloat\\b", "Exact\\(", "System\\.(?!arraycopy)",
             "\\bwhile\\b", "\\bObject\\b", "\\.equals\\(", "hashCode", "toString", "\\bThread\\b", "\\bnull\\b"};
